@@ -97,6 +97,7 @@ public final class PromisesTest {
         for (int month = 0; month < 120; month++) {
             due("new: marks of a month", x.ofMonth(month, 7), 0);
             due("new: form of a month", x.ofMonth(month, 4), PLAIN);
+            due("new: a month names none", x.ofMonth(month, 6), NONE);
         }
         due("new: undo()", x.undo(), NOT_POSSIBLE);
         due("new: restore(0)", x.restore(0), NOT_POSSIBLE);
@@ -173,6 +174,15 @@ public final class PromisesTest {
         due("OLD months", y.count(2), 14);
         due("the month 1", y.ofMonth(1, 4), PLACES);
         dueCounts("13 more became OLD", y, 2 + 2, 0, 14);
+
+        FoldedMonths z = new FoldedMonths();
+        z.pass(59);
+        z.mark(0, 0, 0);
+        z.mark(0, 31, 31);
+        due("the month 0 is OLD, 1 is young", z.ofMonth(1, 4), PLAIN);
+        z.set(FoldedMonths.OPEN, 0);
+        z.pass(31);
+        due("the month 1 became OLD: as the month 0", z.ofMonth(1, 6), 0);
     }
 
     private static void youngMonths() {
@@ -500,7 +510,8 @@ public final class PromisesTest {
         due("among the days that are meant", x.longest(0, 0, 30, 0), 4);
         due("among the days that are meant, its first day", x.longest(0, 0, 30, 1), 2);
         due("cut at its start", x.longest(0, 30, 119, 1), 40);
-        due("cut at its end", x.longest(0, 30, 42, 0), 3);
+        due("cut at its end", x.longest(0, 34, 42, 0), 3);
+        due("one day", x.longest(0, 95, 95, 1), 95);
         due("not marked: no day", x.longest(2, 0, 119, 0), 0);
         due("not marked: no first day", x.longest(2, 0, 119, 1), NONE);
         due("not marked among them", x.longest(0, 6, 27, 1), NONE);
@@ -511,6 +522,8 @@ public final class PromisesTest {
         due("its months", x.longest(0, 0, 3649, 0), 5);
         due("0, 1 and 3 were looked at, 2 was not", x.count(6) - unfolded, 3);
         due("row", row(x), 3);
+        x.longest(0, 0, 31, 0);
+        due("the last month is looked at", row(x), 1);
         due("longest(-1, 0, 0, 5)", x.longest(-1, 0, 0, 5), NO_SUCH);
         due("longest(16, 0, 0, 0)", x.longest(16, 0, 0, 0), NO_SUCH);
         due("longest(0, -1, 0, 0)", x.longest(0, -1, 0, 0), NO_SUCH);
@@ -579,8 +592,9 @@ public final class PromisesTest {
         x.mark(15, 31, 40);
         x.mark(2, 35, 36);
         x.mark(2, 59, 59);
+        x.mark(0, 59, 59);
         int[] folded = {31, 28, 1, 0, RUNS, 3, NONE, 12, 1 << 15 | 1 << 2, NONE};
-        int[] unfolded = {59, 31, 1, 1, PLAIN, 16, NONE, 1, 1 << 2, 0};
+        int[] unfolded = {59, 31, 1, 1, PLAIN, 16, NONE, 2, 1 << 2 | 1, 0};
         int[] empty = {90, 30, 1, 0, EMPTY, 0, NONE, 0, 0, NONE};
         int[] young = {120, 31, 0, 0, PLAIN, 16, NONE, 0, 0, NONE};
         int[] last = {3619, 31, 0, 0, PLAIN, 16, NONE, 0, 0, NONE};
@@ -702,6 +716,10 @@ public final class PromisesTest {
         x.set(FoldedMonths.OPEN, 0);
         due("the month 1 is folded", x.sizeAs(4, SAME), 1);
         due("not with a higher number", x.sizeAs(1, SAME), NONE);
+        x.mark(0, 1, 5);
+        x.mark(0, 59, 65);
+        x.mark(3, 65, 66);
+        due("as the month 0", x.sizeAs(2, SAME), 1);
         due("nothing is different", x.ofMonth(4, 4), PLAIN);
         due("sizeAs(-1, 0)", x.sizeAs(-1, 0), NO_SUCH);
         due("sizeAs(120, 5)", x.sizeAs(120, 5), NO_SUCH);
@@ -741,6 +759,19 @@ public final class PromisesTest {
         due("one month, twice", x.bestOpen(0, 30), 1);
         due("nothing is different: OPEN", x.count(10), 0);
         due("nothing is different: unfolded", x.count(3), 0);
+
+        // The month 1 stands open without a mark: asked once, 5 and 6 would be the same work.
+        FoldedMonths z = new FoldedMonths();
+        z.set(FoldedMonths.KEEP, 1);
+        z.set(FoldedMonths.OPEN, 1);
+        z.pass(212);
+        int[] firstDays = {0, 59, 90, 120, 151, 181};
+        for (int i = 0; i < 6; i++) {
+            z.mark(0, firstDays[i], firstDays[i] + i);
+        }
+        z.mark(0, 31, 31);
+        z.clear(0, 31, 31);
+        due("asked twice", z.bestOpen(0, 211), 6);
 
         FoldedMonths y = fourOldMonths(3);
         y.mark(0, 0, 0);
@@ -841,6 +872,19 @@ public final class PromisesTest {
         due("marks", x.count(8), 3);
         due("the pad is empty", x.count(11), 0);
         due("one change", x.count(12), 1);
+        x.mark(0, 0, 0);
+        put(x, "cb:0");
+        due("one order", x.carryOut(), 1);
+        due("nothing more is done", x.isMarked(0, 0), 1);
+        due("nor what an earlier text asked", x.count(8), 4);
+        x.clear(0, 1, 1);
+        put(x, "p1");
+        due("one order again", x.carryOut(), 1);
+        due("nothing of the earlier text", x.isMarked(0, 1), 0);
+        x.undo();
+        x.undo();
+        x.undo();
+        x.undo();
         put(x, "p1;x");
         due("a fault", x.carryOut(), BAD_TEXT);
         due("the pad stays", x.count(11), 4);
@@ -923,12 +967,21 @@ public final class PromisesTest {
         due("an error records nothing", y.count(12), 6);
         for (int i = 5; i >= 0; i--) {
             due("undo", y.undo(), i);
+            due("today then", y.count(0), (3 + i) * (4 + i) / 2);
         }
         due("1 + 2 + 3", y.count(0), 6);
         due("the oldest ones were dropped", y.undo(), NOT_POSSIBLE);
         y.pass(1);
         due("recorded again", y.undo(), 0);
         due("today", y.count(0), 6);
+
+        FoldedMonths z = fourOldMonths(0);
+        z.mark(0, 0, 0);
+        z.mark(0, 31, 31);
+        z.mark(0, 1, 1);
+        due("folded anew", z.ofMonth(1, 6), NONE);
+        z.undo();
+        due("it names the month 0 again", z.ofMonth(1, 6), 0);
     }
 
     // Promise 25
