@@ -318,7 +318,7 @@ public final class FoldedMonths {
             return error;
         }
         int best = 0;
-        int least = Integer.MAX_VALUE;
+        int least = 0;
         for (int open = 0; open <= MOST_OPEN; open++) {
             copy(diary, trial);
             trial.open = open;
@@ -326,7 +326,7 @@ public final class FoldedMonths {
             trial.lookAtMonths(from, to);
             trial.lookAtMonths(from, to);
             int work = trial.work - diary.work;
-            if (work < least) {
+            if (open == 0 || work < least) {
                 least = work;
                 best = open;
             }

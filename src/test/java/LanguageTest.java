@@ -8,7 +8,7 @@ import java.util.regex.Pattern;
 public final class LanguageTest {
     private static final String[] FORBIDDEN = {"\\bthrow\\b", "\\btry\\b", "\\bcatch\\b", "\\bsynchronized\\b", "\\bassert\\b",
         "->", "::", "\\bimport\\b", "\\bpackage\\b", "\\bequals\\b", "\\bhashCode\\b", "\\btoString\\b", "\\bMap\\b",
-        "Exact\\b", "\\bprotected\\b", "\\bvar\\b", "\\bObject\\b", "\\+ \"", "\" \\+", "static \\{"};
+        "Exact\\b", "\\b(MAX|MIN)_VALUE\\b", "\\bprotected\\b", "\\bvar\\b", "\\bObject\\b", "\\+ \"", "\" \\+", "static \\{"};
 
     public static void main(String[] args) throws Exception {
         Check check = new Check("language");

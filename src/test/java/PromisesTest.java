@@ -656,10 +656,13 @@ public final class PromisesTest {
     private static void dateOf() {
         FoldedMonths x = new FoldedMonths();
         for (int day = 0; day < 3650; day++) {
+            // An object is used for at most 512 calls.
+            x = day % 50 == 0 ? new FoldedMonths() : x;
             int through = x.dateOf(day, 3);
             due("there and back", x.dayOf(x.dateOf(day, 0), x.dateOf(day, 1), x.dateOf(day, 2)), day);
-            due("the month, numbered through", through, x.dateOf(day, 0) * 12 + x.dateOf(day, 1) - 1);
+            due("the month, numbered through", through, day / 365 * 12 + x.dateOf(day, 1) - 1);
         }
+        x = new FoldedMonths();
         due("dateOf(0, 0)", x.dateOf(0, 0), 0);
         due("dateOf(0, 1)", x.dateOf(0, 1), 1);
         due("dateOf(0, 2)", x.dateOf(0, 2), 1);

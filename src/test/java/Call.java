@@ -1,0 +1,4 @@
+/** One call, and what it answers. */
+interface Call {
+    int of(FoldedMonths x);
+}
