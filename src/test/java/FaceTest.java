@@ -40,16 +40,31 @@ public final class FaceTest {
             }
         }
         check.holds("the constants: " + constants, constants.equals(new TreeSet<>(java.util.List.of(CONSTANTS))));
+        for (Method method : face.getDeclaredMethods()) {
+            boolean isPrivate = Modifier.isPrivate(method.getModifiers());
+            check.holds("private, and not a name of the face: " + method.getName(), !isPrivate || !names.contains(method.getName()));
+        }
         Constructor<?>[] constructors = face.getDeclaredConstructors();
         check.due("constructors", constructors.length, 1);
         check.holds("the constructor is public, without parameters",
             constructors[0].getParameterCount() == 0 && Modifier.isPublic(constructors[0].getModifiers()));
+        check.holds("at most twelve classes", face.getDeclaredClasses().length < 12);
+        check.holds("at most twenty fields", fieldsOf(face) <= 20);
         for (Class<?> inside : face.getDeclaredClasses()) {
+            check.holds("at most twenty fields in " + inside, fieldsOf(inside) <= 20);
             check.holds(inside + " is static", Modifier.isStatic(inside.getModifiers()));
             for (Method method : inside.getDeclaredMethods()) {
                 check.holds("not a name of the face: " + method.getName(), !names.contains(method.getName()));
             }
         }
         check.end();
+    }
+
+    private static int fieldsOf(Class<?> type) {
+        int fields = 0;
+        for (Field field : type.getDeclaredFields()) {
+            fields += Modifier.isStatic(field.getModifiers()) ? 0 : 1;
+        }
+        return fields;
     }
 }
